@@ -65,6 +65,14 @@ public final class CounterPromisesTest {
         counters(hedge, 1, 1, 1, 0, 0);
         CHECKS.same(3, hedge.day(), "day()");
         twigs(hedge, 6, 0, 6);
+        // Twigs that stand beside a message are not part of it.
+        HedgeMessages beside = Hedges.of("hedge 8 4 0 9 30 1;nest 0 1;message 0 ab;");
+        beside.endDays(1);
+        CHECKS.same(".ab.....", Hedges.picture(beside), "the hedge with a posted message");
+        beside.plant(0, 'x');
+        beside.plant(3, 'y');
+        CHECKS.same(1, beside.endDays(1), "endDays(1) beside twigs");
+        CHECKS.same("X..Y....", Hedges.picture(beside), "the twigs beside the message");
         // A message is not read on the day on which it is posted.
         HedgeMessages slow = Hedges.of("hedge 10 1 0 9 30 1;message 0 ab;");
         CHECKS.same(0, slow.endDays(3), "endDays(3)");
@@ -229,6 +237,7 @@ public final class CounterPromisesTest {
         CHECKS.same(0.0f, Hedges.of("hedge 4 1 0 9 30 1;").meanLength(), "meanLength() without twigs");
         CHECKS.same(4.5f, new HedgeMessages().meanLength(), "meanLength() of 3 and 6");
         HedgeMessages thirds = Hedges.of("hedge 4 1 0 9 30 1;twig 0 a 0 1;twig 1 b 0 2;twig 2 c 1 2;");
+        CHECKS.same(7.0f, Hedges.of("hedge 4 1 0 9 30 1;twig 2 a 1 7;").meanLength(), "meanLength() of one twig");
         CHECKS.same(5.0f / 3.0f, thirds.meanLength(), "meanLength() of 1, 2 and 2");
     }
 

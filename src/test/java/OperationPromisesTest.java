@@ -16,6 +16,7 @@ public final class OperationPromisesTest {
         CHECKS.test("promise 59: endDays", OperationPromisesTest::endDays);
         CHECKS.test("promise 59: the nest that came later", OperationPromisesTest::writingIntoNests);
         CHECKS.test("promise 60: undo of every operation", OperationPromisesTest::undoEach);
+        CHECKS.test("promise 60: undo and restore of what is being written", OperationPromisesTest::undoOfWriting);
         CHECKS.test("promise 60: the 8 most recent operations", OperationPromisesTest::undoDepth);
         CHECKS.test("promise 60: what undo keeps", OperationPromisesTest::undoKeeps);
         CHECKS.test("promise 60: no operations", OperationPromisesTest::noOperations);
@@ -170,6 +171,13 @@ public final class OperationPromisesTest {
         CHECKS.same(3, hedge.messagesDropped(0), "messagesDropped(0)");
         CHECKS.same("x", Hedges.pending(hedge, 1), "queue 1");
         CHECKS.same(1, hedge.actionsLeft(), "actionsLeft()");
+        HedgeMessages full = Hedges.of("hedge 12 1 0 9 30 1;message 0 a;message 0 bb;message 0 c;message 0 dd;"
+                + "message 0 e;message 0 ff;message 0 g;message 0 hh;");
+        CHECKS.same(2, full.cancelMessage(0, 5), "cancelMessage(0, 5) of 8");
+        CHECKS.same("a bb c dd e g hh", Hedges.pending(full, 0), "the other 7");
+        CHECKS.same(2, full.cancelMessage(0, 6), "cancelMessage(0, 6) of 7");
+        CHECKS.same(1, full.cancelMessage(0, 0), "cancelMessage(0, 0) of 6");
+        CHECKS.same("bb c dd e g", Hedges.pending(full, 0), "the other 5");
         HedgeMessages writer = Hedges.of("hedge 12 1 0 9 30 1;message 0 abc;");
         writer.endDays(1);
         CHECKS.badIndex("cancelMessage of a message in progress", () -> writer.cancelMessage(0, 0));
@@ -246,6 +254,27 @@ public final class OperationPromisesTest {
             CHECKS.same(0, hedge.undo(), "undo() of operation " + index);
             CHECKS.same(before, Hedges.state(hedge), "the hedge after undo of operation " + index);
             CHECKS.badState("undo() again", hedge::undo);
+        }
+    }
+
+    /** What is in progress or posted comes back with all that belongs to it. */
+    private static void undoOfWriting() {
+        HedgeMessages hedge = Hedges.of("hedge 20 3 2 30 30 1;twig 0 q 1 1;nest 1 1;message 0 ab;message 0 cde;"
+                + "message 1 uvwx;message 1 yz;");
+        HedgeMessages twin = Hedges.of("hedge 20 3 2 30 30 1;twig 0 q 1 1;nest 1 1;message 0 ab;message 0 cde;"
+                + "message 1 uvwx;message 1 yz;");
+        for (int day = 0; day < 9; day++) {
+            String before = Hedges.state(hedge);
+            hedge.save();
+            hedge.endDays(1 + day % 3);
+            hedge.undo();
+            CHECKS.same(before, Hedges.state(hedge), "the hedge after undo on day " + day);
+            hedge.endDays(4);
+            hedge.restore();
+            CHECKS.same(before, Hedges.state(hedge), "the restored hedge on day " + day);
+            hedge.endDays(1);
+            twin.endDays(1);
+            CHECKS.same(Hedges.state(twin), Hedges.state(hedge), "the hedge a day after day " + day);
         }
     }
 

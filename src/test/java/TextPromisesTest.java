@@ -12,6 +12,7 @@ public final class TextPromisesTest {
         CHECKS.test("promise 3: truncate", TextPromisesTest::truncate);
         CHECKS.test("promise 4: load replaces all", TextPromisesTest::loadReplacesAll);
         CHECKS.test("promise 4: load keeps output and saved state", TextPromisesTest::loadKeepsOutputAndSaved);
+        CHECKS.test("promise 4: nothing of an earlier text is left", TextPromisesTest::loadStartsAnew);
         CHECKS.test("promise 4: a wrong text changes nothing", TextPromisesTest::wrongTextChangesNothing);
         CHECKS.test("promise 4: correct configurations", TextPromisesTest::correctConfigurations);
         CHECKS.test("promise 4: errors of the hedge statement", TextPromisesTest::hedgeErrors);
@@ -139,6 +140,42 @@ public final class TextPromisesTest {
         CHECKS.same(before, Hedges.state(hedge), "the restored hedge");
     }
 
+    private static void loadStartsAnew() {
+        String bare = HEAD + "message 1 z;";
+        String due = Hedges.state(Hedges.of(bare));
+        String rich = "hedge 16 9 2 3 5 2;twig 0 a 1 9;twig 5 b 0 4;nest 0 3;nest 9 9;message 0 abcd;message 0 e;"
+                + "message 1 xy;message 1 no;";
+        HedgeMessages twice = Hedges.of(rich);
+        Hedges.put(twice, bare);
+        twice.load();
+        CHECKS.same(due, Hedges.state(twice), "the hedge after two texts");
+        HedgeMessages late = Hedges.of(rich);
+        late.cancelMessage(1, 1);
+        late.trim(5, 1);
+        late.remove(5);
+        for (int days : new int[] {1, 2, 3, 5, 20}) {
+            late.endDays(days);
+            late.deliveredAfter(0, 1);
+            Hedges.put(late, bare);
+            late.load();
+            CHECKS.same(due, Hedges.state(late), "the hedge after " + days + " days");
+            Hedges.put(late, rich);
+            late.load();
+        }
+        // The forecast leaves a message in progress and one that failed.
+        HedgeMessages slow = Hedges.of("hedge 16 1 2 3 3 2;message 0 abcd;message 1 xyz;");
+        slow.endDays(3);
+        CHECKS.same(2, slow.messagesFailed(0) + slow.messagesFailed(1), "failed messages");
+        slow.pendingAfter(0, 2);
+        Hedges.put(slow, bare);
+        slow.load();
+        CHECKS.same(due, Hedges.state(slow), "the hedge after messages in progress");
+        wrong(late, rich + "?", 1, rich.length());
+        Hedges.put(late, bare);
+        late.load();
+        CHECKS.same(due, Hedges.state(late), "the hedge after a wrong text");
+    }
+
     private static void wrongTextChangesNothing() {
         HedgeMessages hedge = new HedgeMessages();
         hedge.endDays(2);
@@ -170,6 +207,8 @@ public final class TextPromisesTest {
     private static void hedgeErrors() {
         wrongConfiguration("", 1, 0);
         wrongConfiguration("   ", 1, 3);
+        wrongConfiguration("kedge 16 4 2 5 3 4;", 1, 0);
+        wrongConfiguration("hedgf 16 4 2 5 3 4;", 1, 0);
         wrongConfiguration("hedges 16 4 2 5 3 4;", 1, 0);
         wrongConfiguration(" twig 1 a 0 1;", 1, 1);
         wrongConfiguration("16 4 2 5 3 4;", 1, 0);
@@ -211,6 +250,7 @@ public final class TextPromisesTest {
         wrongConfiguration(HEAD + HEAD, 1, 19);
         wrongConfiguration(HEAD + "7", 1, 19);
         wrongConfiguration(HEAD + "twigs 1 a 0 1;", 1, 19);
+        wrongConfiguration(HEAD + "nwig 1 a 0 1;", 1, 19);
         wrongConfiguration(HEAD + "twi 1 a 0 1;", 1, 19);
         wrongConfiguration(HEAD + "plant 1 a;", 1, 19);
         wrongConfiguration(HEAD + "twig", 1, 23);
@@ -285,6 +325,13 @@ public final class TextPromisesTest {
         Hedges.run(hedge, "message 0 abcdefghijkl;message 1 x;message 0 end;");
         CHECKS.same("hello no abcdefghijkl end", Hedges.pending(hedge, 0), "queue 0");
         CHECKS.same("yes x", Hedges.pending(hedge, 1), "queue 1");
+        CHECKS.same(1, Hedges.run(hedge, "trim 2 1;"), "one command after three");
+        CHECKS.same(0, Hedges.run(hedge, ""), "no command after one");
+        HedgeMessages edges = Hedges.of("hedge 40 9 0 9 30 1;twig 0 a 0 9;twig 38 b 0 9;twig 39 c 0 9;"
+                + "message 0 a;".repeat(8));
+        CHECKS.same(8, Hedges.run(edges, "trim 0 8;trim 39 8;remove 39;remove 0;remove 38;plant 0 z;nest 39 30;"
+                + "cancel 0 7;"), "commands for the first and the last slot");
+        CHECKS.same(4, Hedges.run(edges, "nest 38 1;cancel 0 0;work 1;end 60;"), "more commands");
     }
 
     private static void commandsStop() {
@@ -312,6 +359,8 @@ public final class TextPromisesTest {
 
     private static void commandErrors() {
         wrongCommands("plants 1 a;", 1, 0);
+        wrongCommands("olant 1 a;", 1, 0);
+        wrongCommands("planu 1 a;", 1, 0);
         wrongCommands(";", 1, 0);
         wrongCommands("work 1;;", 1, 7);
         wrongCommands("7;", 1, 0);

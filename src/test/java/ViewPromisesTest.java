@@ -225,6 +225,9 @@ public final class ViewPromisesTest {
         for (int yard : new int[] {-1, -2, Integer.MIN_VALUE, Integer.MAX_VALUE, 1 << 30}) {
             CHECKS.same(0, hedge.yardLetterCount(yard), "yardLetterCount(" + yard + ")");
         }
+        HedgeMessages single = Hedges.of("hedge 10 1 0 9 30 1;twig 9 a 0 1;");
+        CHECKS.same(1, single.yardLetterCount(9), "yardLetterCount(9) of yards of one slot");
+        CHECKS.same(0, single.yardLetterCount(8), "yardLetterCount(8) of yards of one slot");
         CHECKS.same(4, Hedges.of("hedge 4 1 0 9 30 40;twig 0 a 0 1;twig 1 b 1 1;twig 2 c 0 1;twig 3 d 0 1;")
                 .yardLetterCount(0), "yardLetterCount(0) of a yard longer than the hedge");
     }
@@ -234,6 +237,7 @@ public final class ViewPromisesTest {
         CHECKS.same(0, hedge.plantReason(0), "plantReason of a free slot");
         CHECKS.same(2, hedge.plantReason(8), "plantReason of a twig in a nest");
         CHECKS.same(4, hedge.plantReason(10), "plantReason of a nest");
+        CHECKS.same(4, Hedges.of("hedge 4 1 0 9 30 1;nest 2 1;").plantReason(2), "plantReason of a nest for a day");
         CHECKS.same(0, hedge.plantReason(9), "plantReason beside nests");
         hedge.endDays(2);
         CHECKS.same(2, hedge.plantReason(0), "plantReason of a message's twig");
