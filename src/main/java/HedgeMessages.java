@@ -1070,7 +1070,7 @@ public final class HedgeMessages {
             if (actions <= 0) {
                 return NO_ACTIONS_LEFT;
             }
-            if (!hasTwig(slot)) {
+            if (lengths.get(slot) == 0) {
                 return SLOT_EMPTY;
             }
             return owners.get(slot) == active() ? ALLOWED : NOT_OWNER;
