@@ -14,11 +14,14 @@ final class Hedges {
 
     static HedgeMessages put(HedgeMessages hedge, String text) {
         byte[] bytes = text.getBytes(StandardCharsets.ISO_8859_1);
+        int length = 0;
         for (int at = 0; at < bytes.length; at += 20) {
-            hedge.append(four(bytes, at), four(bytes, at + 4), four(bytes, at + 8),
+            length = hedge.append(four(bytes, at), four(bytes, at + 4), four(bytes, at + 8),
                     four(bytes, at + 12), four(bytes, at + 16));
         }
-        hedge.truncate(bufferLength(hedge) - (20 - bytes.length % 20) % 20);
+        if (bytes.length > 0) {
+            hedge.truncate(length - (20 - bytes.length % 20) % 20);
+        }
         return hedge;
     }
 
@@ -44,9 +47,25 @@ final class Hedges {
         return 0;
     }
 
+    /** The length of the input buffer, which stays as it is, if it is the one that is due; another one if not. */
+    static int truncated(HedgeMessages hedge, int due) {
+        try {
+            return hedge.truncate(due + 1);
+        } catch (IllegalArgumentException notLonger) {
+            try {
+                return hedge.truncate(due);
+            } catch (IllegalArgumentException shorter) {
+                return due - 1;
+            }
+        }
+    }
+
     static String picture(HedgeMessages hedge) {
+        return lastOutput(hedge, hedge.formatHedge());
+    }
+
+    static String lastOutput(HedgeMessages hedge, int length) {
         StringBuilder signs = new StringBuilder();
-        int length = hedge.formatHedge();
         for (int index = 0; index < length; index++) {
             signs.append((char) hedge.outputByte(index));
         }
@@ -57,7 +76,8 @@ final class Hedges {
         StringBuilder words = new StringBuilder();
         for (int message = 0; message < hedge.pendingCount(gardener); message++) {
             words.append(message > 0 ? " " : "");
-            for (int index = 0; hedge.pendingLetter(gardener, message, index) != HedgeMessages.NONE; index++) {
+            // A word has at most 12 letters; the bound only keeps a broken class from going on for ever.
+            for (int index = 0; index < 20 && hedge.pendingLetter(gardener, message, index) != HedgeMessages.NONE; index++) {
                 words.append((char) hedge.pendingLetter(gardener, message, index));
             }
         }
