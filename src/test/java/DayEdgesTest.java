@@ -349,6 +349,10 @@ public final class DayEdgesTest {
             HedgeMessages hedge = after(1, "hedge 16 4 1 1 1 1;message 0 a;message 0 b;message 0 cdef;");
             CHECKS.same("cdef a b", Hedges.pending(hedge, 0), "queue 0");
         });
+        CHECKS.test("promise 59, inspection: that of gardener 1 before gardener 1's posted ones", () -> {
+            HedgeMessages hedge = after(2, "hedge 16 4 1 1 2 1;message 1 a;message 1 b;message 1 cdef;");
+            CHECKS.same("cdef a b", Hedges.pending(hedge, 1), "queue 1");
+        });
         CHECKS.test("promise 59, inspection: the posted ones in the order in which they were posted", () -> {
             HedgeMessages hedge = after(1, "hedge 16 4 1 1 1 1;twig 3 q 1 1;message 0 abc;message 0 d;");
             // The abc stands behind the twig in slot 3 and the d before it.

@@ -106,7 +106,7 @@ public final class FaceTest {
         CHECKS.test("the constants", FaceTest::constants);
         CHECKS.test("the constructor and the methods", FaceTest::methods);
         CHECKS.test("rule 1: nothing else can be seen", FaceTest::nothingElse);
-        CHECKS.test("rules 2, 5 and 11: the classes inside", FaceTest::classesInside);
+        CHECKS.test("rules 1, 2 and 11: the classes inside", FaceTest::classesInside);
         CHECKS.close();
     }
 
@@ -159,10 +159,7 @@ public final class FaceTest {
     private static void nothingElse() {
         List<Member> members = new ArrayList<>(Arrays.asList(HedgeMessages.class.getDeclaredMethods()));
         members.addAll(Arrays.asList(HedgeMessages.class.getDeclaredFields()));
-        TreeSet<String> publicNames = new TreeSet<>();
-        for (Method method : HedgeMessages.class.getMethods()) {
-            publicNames.add(method.getName());
-        }
+        TreeSet<String> publicNames = publicNames();
         for (Member member : members) {
             boolean seen = Modifier.isPublic(member.getModifiers());
             CHECKS.same(true, seen || Modifier.isPrivate(member.getModifiers()) || member.isSynthetic(),
@@ -178,8 +175,17 @@ public final class FaceTest {
         }
     }
 
+    private static TreeSet<String> publicNames() {
+        TreeSet<String> names = new TreeSet<>();
+        for (Method method : HedgeMessages.class.getMethods()) {
+            names.add(method.getName());
+        }
+        return names;
+    }
+
     private static void classesInside() {
         Class<?>[] inside = HedgeMessages.class.getDeclaredClasses();
+        TreeSet<String> names = publicNames();
         CHECKS.same(true, inside.length <= 12, "the number of classes inside");
         for (Class<?> type : inside) {
             CHECKS.same(true, Modifier.isStatic(type.getModifiers()) && Modifier.isPrivate(type.getModifiers()),
@@ -191,6 +197,9 @@ public final class FaceTest {
             CHECKS.same(true, fields <= 20, type + " has at most 20 fields");
             for (Method method : type.getDeclaredMethods()) {
                 CHECKS.same(true, method.getParameterCount() <= 7, method + " has at most 7 parameters");
+                // Those of every enum cannot be named otherwise.
+                boolean ofEnum = type.isEnum() && List.of("values", "valueOf").contains(method.getName());
+                CHECKS.same(false, !ofEnum && names.contains(method.getName()), method + " bears the name of a public one");
             }
         }
     }

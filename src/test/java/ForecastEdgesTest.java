@@ -14,6 +14,7 @@ public final class ForecastEdgesTest {
         bestNestSlotNone();
         leastWorkLimit();
         leastWorkLimitOfFailing();
+        leastWorkLimitOfDropped();
         leastWorkLimitAmongOthers();
         nothingChanges();
         CHECKS.close();
@@ -231,6 +232,13 @@ public final class ForecastEdgesTest {
             hedge.endDays(1);
             CHECKS.same(0, hedge.bestNestSlot(), "bestNestSlot()");
         });
+        CHECKS.test("promise 38: a letter that would go only because its message fails is not one that is pruned", () -> {
+            HedgeMessages hedge = Hedges.of("hedge 8 2 2 3 30 1;message 0 abcd;twig 6 q 1 9;twig 7 r 1 9;");
+            hedge.endDays(2);
+            hedge.trim(1, 4);
+            CHECKS.same("ab==..QR", Hedges.picture(hedge), "the hedge, a 5 cm and b 1 cm long");
+            CHECKS.same(6, hedge.bestNestSlot(), "bestNestSlot()");
+        });
         CHECKS.test("promise 38: the days of the nests don't matter", () ->
                 best(4, "twig 1 a 0 10;nest 1 1;twig 5 b 0 10;"));
     }
@@ -325,6 +333,20 @@ public final class ForecastEdgesTest {
             least(HedgeMessages.NONE, 0, 3, Hedges.of(text));
             least(2, 0, 4, Hedges.of(text));
             least(2, 0, 60, Hedges.of(text));
+        });
+    }
+
+    private static void leastWorkLimitOfDropped() {
+        CHECKS.test("promise 39: a message that is dropped is none that the gardener has", () -> {
+            HedgeMessages hedge = Hedges.of("hedge 8 1 1 1 2 1;message 0 abc;" + "message 0 z;".repeat(7));
+            hedge.endDays(1);
+            CHECKS.same(8, Hedges.queue(hedge, 0, "z"), "queueMessage");
+            least(2, 0, 16, hedge);
+            least(1, 0, 17, hedge);
+            hedge.endDays(17);
+            CHECKS.same(1, hedge.messagesDropped(0), "messagesDropped(0)");
+            CHECKS.same(8, hedge.messagesDelivered(0), "messagesDelivered(0)");
+            CHECKS.same(0, hedge.pendingCount(0) + hedge.postedCount(0), "what is left");
         });
     }
 

@@ -176,7 +176,7 @@ public final class ModelTest {
 
     private String commands() {
         StringBuilder text = new StringBuilder();
-        int many = random.nextInt(20) == 0 ? 32 : random.nextInt(6);
+        int many = random.nextInt(15) == 0 ? 28 + random.nextInt(5) : random.nextInt(6);
         for (int command = 0; command < many; command++) {
             switch (random.nextInt(9)) {
                 case 0, 1 -> text.append("plant ").append(random.nextInt(18)).append(' ').append(letter());
@@ -221,12 +221,14 @@ public final class ModelTest {
 
     private void put(String text) {
         call("truncate", 0);
+        // What is cut off may look like the rest of the text.
+        char cut = " a0;".charAt(random.nextInt(4));
         for (int at = 0; at < text.length(); at += 20) {
             Object[] parts = new Object[5];
             for (int part = 0; part < 5; part++) {
                 int value = 0;
                 for (int index = at + part * 4; index < at + part * 4 + 4; index++) {
-                    value = value << 8 | (index < text.length() ? text.charAt(index) : ' ');
+                    value = value << 8 | (index < text.length() ? text.charAt(index) : cut);
                 }
                 parts[part] = value;
             }

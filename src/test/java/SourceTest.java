@@ -29,6 +29,7 @@ public final class SourceTest {
         CHECKS.test("the program holds signs 1 to 127 alone", () -> signs(source));
         CHECKS.test("every exception is one that the document names", () -> exceptions(bare));
         CHECKS.test("methods are short", () -> lengths(source));
+        CHECKS.test("a call makes no object but its exception", () -> objects(bare));
         CHECKS.close();
     }
 
@@ -52,6 +53,26 @@ public final class SourceTest {
                     "\\s*new (IllegalState|IllegalArgument|IndexOutOfBounds)Exception\\(\"\"\\)"), thrown.group());
         }
         CHECKS.same(true, count > 0, "there are throw statements");
+    }
+
+    /** What is made elsewhere is made once: by a constructor, or by receiveText, which only the constructor calls. */
+    private static void objects(String bare) {
+        Pattern head = Pattern.compile("^(?: {4}| {8})(?:\\w+ )*(\\w+)\\([^;]*\\{$");
+        String method = "";
+        int made = 0;
+        for (String line : bare.split("\n")) {
+            Matcher found = head.matcher(line);
+            if (found.find()) {
+                method = found.group(1);
+            }
+            if (line.matches(".*\\bnew\\b.*") && !line.contains("throw new")) {
+                made++;
+                CHECKS.same(true, Character.isUpperCase(method.charAt(0)) || method.equals("receiveText"),
+                        "an object in a constructor, not in " + method);
+            }
+        }
+        CHECKS.same(true, made > 0, "there are objects");
+        CHECKS.same(4, bare.split("receiveText\\(", -1).length - 1, "receiveText and three calls in the constructor");
     }
 
     private static void lengths(String source) {

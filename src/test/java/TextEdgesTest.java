@@ -199,6 +199,21 @@ public final class TextEdgesTest {
             hedge.truncate(4);
             CHECKS.badArgument("queueMessage of a word and a space", () -> hedge.queueMessage(1));
         });
+        CHECKS.test("promise 3: a token that was cut ends where the text ends", () -> {
+            // The bytes behind the new length are no longer part of the text, even if they go on with the token.
+            HedgeMessages hedge = Hedges.put(new HedgeMessages(), "work 12;");
+            hedge.truncate(6);
+            refused(hedge, "executeCommands() of a cut number", hedge::executeCommands, 6);
+            Hedges.put(hedge, "message 0 abcdef;").truncate(13);
+            refused(hedge, "executeCommands() of a cut word", hedge::executeCommands, 13);
+            Hedges.put(hedge, "hedge 16 4 2 5 3 40;").truncate(18);
+            refused(hedge, "load() of a cut number", hedge::load, 18);
+            Hedges.put(hedge, HEAD + "message 0 abcdef;").truncate(32);
+            refused(hedge, "load() of a cut word", hedge::load, 32);
+            Hedges.put(hedge, HEAD + "twig 1 a 0 1;").truncate(19);
+            CHECKS.same(16, hedge.load(), "load() of a text that was cut between two statements");
+            CHECKS.same(0, hedge.twigCount(), "twigCount()");
+        });
         CHECKS.test("promise 3: a refused truncate leaves all as it was", () -> {
             Witness witness = new Witness(CHECKS, new HedgeMessages());
             witness.refusesArgument("truncate(9)", () -> witness.hedge.truncate(9));
@@ -210,6 +225,12 @@ public final class TextEdgesTest {
             hedge.truncate(2);
             CHECKS.badState("undo()", hedge::undo);
         });
+    }
+
+    private static void refused(HedgeMessages hedge, String what, Runnable reading, int position) {
+        CHECKS.badArgument(what, reading);
+        CHECKS.same(HedgeMessages.SYNTAX_ERROR, hedge.errorCode(), "errorCode() after " + what);
+        CHECKS.same(position, hedge.errorPosition(), "errorPosition() after " + what);
     }
 
     // ---- Promise 4: the ranges ----
@@ -880,6 +901,16 @@ public final class TextEdgesTest {
         });
         CHECKS.test("promise 5: the last of 30 commands may stop it", () ->
                 CHECKS.same(29, rightCommands("work 3;".repeat(29) + "remove 0;"), "executeCommands()"));
+        CHECKS.test("promise 5: the last of 30 commands may be any of them", () -> {
+            CHECKS.same((int) 'y', last("plant 5 y;").letterAt(5), "letterAt(5) after plant");
+            CHECKS.same(0, last("remove 2;").lengthAt(2), "lengthAt(2) after remove");
+            CHECKS.same(1, last("trim 2 2;").lengthAt(2), "lengthAt(2) after trim");
+            CHECKS.same(9, last("nest 7 9;").nestDays(7), "nestDays(7) after nest");
+            CHECKS.same("yes abcdefghijkl", Hedges.pending(last("message 1 abcdefghijkl;"), 1), "queue 1 after message");
+            CHECKS.same("hello", Hedges.pending(last("cancel 0 1;"), 0), "queue 0 after cancel");
+            CHECKS.same(7, last("work 7;").workLimit(), "workLimit() after work");
+            CHECKS.same(5, last("end 5;").day(), "day() after end");
+        });
         CHECKS.test("promise 5: all commands are undone at once", () -> {
             HedgeMessages hedge = new HedgeMessages();
             String before = Hedges.state(hedge);
@@ -921,6 +952,13 @@ public final class TextEdgesTest {
             CHECKS.same(1800, hedge.day(), "day()");
             CHECKS.same(0, hedge.twigCount(), "twigCount()");
         });
+    }
+
+    /** A new object after 29 commands that change nothing and this one. */
+    private static HedgeMessages last(String command) {
+        HedgeMessages hedge = new HedgeMessages();
+        CHECKS.same(30, Hedges.run(hedge, "work 4;".repeat(29) + command), "30 commands, the last " + command);
+        return hedge;
     }
 
     /** Its gardener has no action left; slot 0 holds a twig of gardener 0. */

@@ -554,12 +554,36 @@ public final class ViewEdgesTest {
             Hedges.queue(hedge, 1, "fgh");
             CHECKS.same(HedgeMessages.NONE, hedge.nextStartSlot(1), "nextStartSlot(1) of 3 letters");
         });
+        CHECKS.test("promise 26: a slot that is no longer reserved may be behind the last one or one of its own", () -> {
+            String text = "hedge 9 3 1 9 30 1;nest 0 1;nest 1 1;nest 2 1;message 0 abc;message 1 x;";
+            HedgeMessages delivered = Hedges.of(text);
+            delivered.endDays(1);
+            CHECKS.same("...abc...", Hedges.picture(delivered), "the hedge with a posted message");
+            delivered.cancelMessage(1, 0);
+            delivered.endDays(1);
+            startsAtFirst(delivered, "after the delivery");
+            HedgeMessages failed = Hedges.of(text.replace("9 30", "1 1"));
+            failed.endDays(1);
+            CHECKS.same(1, failed.messagesFailed(0), "messagesFailed(0)");
+            failed.cancelMessage(1, 0);
+            startsAtFirst(failed, "after the failure");
+        });
         CHECKS.test("promise 26: the first message of the queue, not a later one", () ->
                 CHECKS.same(HedgeMessages.NONE, Hedges.of("hedge 4 1 0 9 30 1;message 0 abcde;message 0 f;")
                         .nextStartSlot(0), "nextStartSlot(0)"));
         CHECKS.test("promise 26: on the other's day, too", () ->
                 CHECKS.same(0, Hedges.of("hedge 4 1 0 9 30 1;message 1 abc;").nextStartSlot(1), "nextStartSlot(1)"));
         gardeners("promise 26: nextStartSlot", HedgeMessages::nextStartSlot);
+    }
+
+    /** Words of 3 and of 9 letters of gardener 1, who has none before, would start in slot 0. */
+    private static void startsAtFirst(HedgeMessages hedge, String when) {
+        CHECKS.same(".........", Hedges.picture(hedge), "the hedge " + when);
+        Hedges.queue(hedge, 1, "fgh");
+        CHECKS.same(0, hedge.nextStartSlot(1), "nextStartSlot(1) of 3 letters " + when);
+        hedge.cancelMessage(1, 0);
+        Hedges.queue(hedge, 1, "fghijklmn");
+        CHECKS.same(0, hedge.nextStartSlot(1), "nextStartSlot(1) of 9 letters " + when);
     }
 
     private static void run(int due, String statements) {
